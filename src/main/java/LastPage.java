@@ -649,9 +649,9 @@ public final class LastPage {
             for (int f = 0; f < FACTS; f++) if (hasBit(bits, f)) plainly &= CASES_WITH[f];
         }
 
+        /** Of a KIND above 0; of KIND 0 is each. */
         boolean isOf(int k) {
             switch (k) {
-                case PAGE: return true;
                 case EXCEPTION: return kind == EXCEPTION || kind == STRUCK;
                 case POINTER: return kind == POINTER || kind == INDEX;
                 default: return kind == k;

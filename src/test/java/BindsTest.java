@@ -53,6 +53,11 @@ public final class BindsTest {
         Checks.due("22 day -1", x.means(6, -1), BAD);
         Checks.due("23 day 21", x.meanings(21), BAD);
         Checks.due("23 day -1", x.meanings(-1), BAD);
+        LastPage w = Checks.bookOf("d50 d51 d52");
+        Checks.layRow(w, 0, 1, 0, 2);
+        w.read(0);
+        int[] three = {2, 1, 4};
+        for (int day = 0; day < 3; day++) Checks.due("22 of three the last", w.means(5, day), three[day]);
         LastPage y = new LastPage();
         Checks.due("22 without pages", y.means(6, 20), 31);
         Checks.due("23 without pages", y.meanings(0), 25);

@@ -57,6 +57,12 @@ public final class BooksTest {
         Checks.due("13 an index to none", y.mark(1, 5), NONE);
         Checks.due("13 pages with word 6, definitions aside", y.mark(2, 3), 1);
         Checks.due("13 a pointer to none in the end", y.mark(3, 2), 0);
+        LastPage z = Checks.bookOf("p15 i21 s156 d50 d64 o01");
+        Checks.due("13 pages with word 5", z.mark(3, 3), 2);
+        Checks.due("13 pages with word 6", z.mark(4, 3), 1);
+        Checks.due("13 an index of a day", z.mark(1, 5), 3);
+        Checks.due("13 a pointer, once what it points to is read", z.mark(5, 2), 1);
+        Checks.due("13 an index, from day 0 on", Checks.bookOf("i11 p0").mark(0, 5), 0);
     }
 
     private static void reverse() {
@@ -99,6 +105,8 @@ public final class BooksTest {
         Checks.dueFinding("16 too many", x, x.read(0), SIZE);
         Checks.layRow(x, 0, 0, 1, 1);
         Checks.dueFinding("16 one twice", x, x.read(0), UNLIKE);
+        Checks.layRow(x, 0, 3, 1, 2);
+        Checks.dueFinding("16 none such ahead", x, x.read(0), UNLIKE);
         Checks.layRow(x, 0, 0, 1, 3);
         Checks.dueFinding("16 none such", x, x.read(0), UNLIKE);
         Checks.layRow(x, 0, 0, -1, 1);
@@ -152,6 +160,9 @@ public final class BooksTest {
         Checks.due("18 rip", x.rip(), 1);
         Checks.due("18 rip", x.rip(), 0);
         Checks.due("18 no pages left", x.rip(), STATE);
+        LastPage z = Checks.bookOf("p0 p1 e1");
+        z.rip();
+        Checks.due("18 judged by what is left", z.judge(0, 0, 1), 0);
         LastPage y = Checks.bookOf("p1 p1 p1");
         Checks.due("18 the one of day 0", y.rip(), 2);
         y.page(0, 5);

@@ -69,6 +69,10 @@ public final class DeedsTest {
         Checks.layRow(x, 0, 0, 1, 2);
         Checks.due("32 order", x.order(0, 1), 2);
         Checks.dueRow("32 places, the first of alike orders", x, 1, 1, 0, 2);
+        Checks.layRow(x, 0, 1);
+        Checks.due("31 on day 0", x.deeds(0, 2), 0);
+        Checks.due("32 one alone", x.order(0, 2), 0);
+        Checks.dueRow("32 one alone", x, 2, 0);
         Checks.layRow(x, 0, 1, 1);
         Checks.due("32 by none", x.order(0, 1), SPENT);
         Checks.dueRow("32 refused: as it was", x, 1, 1, 0, 2);

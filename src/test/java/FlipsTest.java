@@ -55,6 +55,8 @@ public final class FlipsTest {
         LastPage z = Checks.bookOf("e0 p1");
         Checks.due("34 the first day is no flip", z.flip(0, 0), 0);
         Checks.due("33 the first day is no flip", z.flips(0), 1);
+        Checks.due("35 each once: the first", z.most(), 0);
+        Checks.due("35 each once", z.asked(), 1);
     }
 
     private static void matter() {

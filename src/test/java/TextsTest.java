@@ -106,7 +106,7 @@ public final class TextsTest {
             x.page(i, 5);
             Checks.due("11 read from its end", x.asked(), 2 - i);
         }
-        x.keep(1);
+        for (int k = 0; k < 3; k++) x.keep(k);
         x.swap(0, 2);
         Checks.due("11 text 4", x.book(4), BAD);
         Checks.due("11 text -1", x.book(-1), BAD);
@@ -115,7 +115,7 @@ public final class TextsTest {
         Checks.due("11 a fault", x.book(1), STATE);
         Checks.due("11 STATE is no finding", x.findings(NOTHING), 1);
         Checks.due("11 refused: as it was", x.count(0), 3);
-        Checks.due("11 refused: still kept", x.count(6), 1);
+        Checks.due("11 refused: still kept", x.count(6), 3);
         Checks.due("11 anew", x.book(0), 3);
         Checks.due("11 kept ones go", x.count(6), 0);
         x.page(0, 5);
