@@ -726,7 +726,7 @@ public final class LastPage {
             rank();
         }
 
-        /** Of KIND 0, as an INDEX needs not be read to BIND. */
+        /** Of KIND 0, as an INDEX need not be read to BIND. */
         void leaveOut(int i) {
             if (!isOne(i)) return;
             pages[i].day = NEVER;
@@ -1095,7 +1095,7 @@ public final class LastPage {
         private int least;
 
         void findBest(Book trial, Court court) {
-            least = Integer.MAX_VALUE;
+            least = CASES * MOST_PAGES + 1;
             for (int i = 0; i < trial.count; i++) trial.pages[i].day = NEVER;
             tryDay(trial, court, 0, 0);
         }
