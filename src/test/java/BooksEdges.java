@@ -86,6 +86,8 @@ final class BooksEdges {
         });
         Edges.test(13, "a DEFINITION how many PAGES have that WORD (DEFINITIONS aside),", () -> {
             dueMark("d50", 0, 3, 0);
+            dueMark("p05 d50", 1, 3, 1);
+            dueMark("d50 p05", 0, 3, 1);
             dueMark("d60", 0, 3, 0);
             dueMark("d50 d51 d52 d53 d54 d50", 0, 3, 0);
             dueMark("d50 p15 e056 s05 o015 i0156", 0, 3, 5);
@@ -342,6 +344,14 @@ final class BooksEdges {
             dueRipped(new int[] {0, 2, 1}, 0, 1);
             dueRipped(new int[] {5, 4, 3, 2, 1, 0}, 4, 3, 2, 1, 0);
             dueRipped(new int[] {0, 1, 2, 3, 4, 5}, 0, 1, 2, 3, 4);
+        });
+        Edges.test(18, "how many PAGES are left.", () -> {
+            LastPage x = Checks.bookOf("p0 p11 e1");
+            x.rip();
+            Edges.due("judged by what is left", x.judge(2, 0, 1), 1);
+            Edges.due("judged by what is left", x.judge(1, 0, 1), 0);
+            Edges.due("best by what is left", x.best(0), 0);
+            Edges.dueRow("best by what is left", x, 0, 0, 1);
         });
         Edges.test(18, "STATE: no PAGES.", () -> {
             Edges.refused(Edges::bare, "at first", x -> x.rip(), Edges.STATE, 0);

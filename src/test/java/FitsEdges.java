@@ -120,6 +120,10 @@ final class FitsEdges {
             LastPage x = Checks.bookOf("p1");
             x.kinds(0, 0, 0, 0);
             Edges.dueTold("it is of its KIND still", x, x.page(0, 0), 1, 0);
+            x.reverse(0, 0);
+            Edges.due("of the BOOK as it is now", x.kinds(0, 0, 0, 0), 19);
+            x.add(1, 0);
+            Edges.due("of the BOOK as it is now", x.kinds(1, 0, 1, 1), 18);
         });
     }
 

@@ -128,6 +128,10 @@ final class FlipsEdges {
             LastPage x = Checks.bookOf("p1 d50");
             x.matter(1, 1);
             Edges.due("it is there as before", x.binds(1), 3);
+            x.reverse(0, 0);
+            Edges.due("of the BOOK as it is now", x.matter(0, 1), 0);
+            x.add(1, 1);
+            Edges.due("of the BOOK as it is now", x.matter(2, 2), 16);
         });
     }
 }

@@ -35,6 +35,21 @@ final class OrdersEdges {
             // A PAGE without words in front of the others, of the two alike ones the first.
             dueBest("p16 p15 p0", 60, 2, 0, 1);
         });
+        Edges.test(37, "by which all() is least", () -> {
+            LastPage x = Checks.bookOf("p15 p0");
+            x.add(1, 64);
+            x.rip();
+            x.add(0, 64);
+            Edges.due("of the BOOK as it is now", x.best(0), 30);
+            Edges.dueRow("of the BOOK as it is now", x, 0, 1, 2, 0);
+            x.keep(0);
+            x.rip();
+            x.reverse(0, 0);
+            Edges.due("a VERDICT that is another one now", x.best(0), 0);
+            Edges.dueRow("a VERDICT that is another one now", x, 0, 0, 1);
+            x.on(0);
+            Edges.due("as it was kept", x.best(0), 30);
+        });
         Edges.test(37, "comes to a ROW (anew): all() by it.", () -> {
             LastPage x = Checks.bookOf("p0 p15");
             Checks.layRow(x, 0, 9, 9, 9);
@@ -78,6 +93,10 @@ final class OrdersEdges {
             LastPage x = Checks.bookOf("p0 p15");
             x.front();
             Edges.due("still read as before", x.all(), 60);
+            x.add(0, 1);
+            Edges.dueTold("of the BOOK as it is now", x, x.front(), 60, 60);
+            x.reverse(1, 0);
+            Edges.dueTold("of the BOOK as it is now", x, x.front(), 0, 0);
         });
     }
 }

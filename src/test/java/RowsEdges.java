@@ -74,6 +74,29 @@ final class RowsEdges {
             Edges.due("row(0, 0)", x.row(0, 0), 0);
             Edges.dueRow("empty, anew", x, 0);
         });
+        Edges.test(2, "A ROW is there with n ints", () -> {
+            // What stood behind the end of a ROW that is shorter now is no part of it.
+            LastPage x = Checks.bookOf("p0 p0");
+            Checks.layRow(x, 0, 9, 99, 99, 99, 99);
+            x.row(0, 1);
+            Edges.dueTold("mean", x, x.mean(0), 1, 0);
+            Edges.due("deeds", x.deeds(0, 1), 0);
+            Edges.due("order", x.order(0, 1), 0);
+            Edges.dueFinding("copy", x, x.copy(0, 0, 1, 0, 2), Edges.BEYOND);
+            Checks.layRow(x, 0, 9, 99, 99, 99, 99);
+            x.row(0, 0);
+            Edges.dueTold("meant", x, x.meant(0), 25, 31);
+            Checks.layRow(x, 0, 9, 99, 99, 99, 99);
+            Checks.layRow(x, 0, 0, 1);
+            Edges.due("read", x.read(0), 1);
+            LastPage y = Checks.bookOf("p0 p0");
+            Checks.layRow(y, 0, 0, 1);
+            y.row(1, 1);
+            y.deeds(1, 1);
+            y.read(0);
+            x.order(1, 1);
+            Edges.due("digest", x.digest(), y.digest());
+        });
         Edges.test(2, "ROWS 0 .. 5 are rows of 0 to 40 ints,", () -> {
             LastPage x = new LastPage();
             for (int r = 0; r < 6; r++) Edges.due("row(" + r + ", 40)", x.row(r, 40), 40);

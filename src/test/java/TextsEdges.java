@@ -40,6 +40,21 @@ final class TextsEdges {
             Edges.due("longer", x.text(0, 4), 4);
             for (int i = 0; i < 4; i++) Edges.due("a blank at " + i, x.put(0, i, 65), 1032);
         });
+        Edges.test(8, "A TEXT is there with n", () -> {
+            // What stood behind the end of a TEXT that is shorter now is no part of it.
+            LastPage x = new LastPage();
+            Checks.lay(x, 0, "p0p0xxxx");
+            x.text(0, 2);
+            Edges.due("fault of blanks", x.fault(0), Edges.NONE);
+            x.put(0, 0, 'p');
+            x.put(0, 1, '1');
+            Edges.due("fault", x.fault(0), Edges.NONE);
+            Edges.due("book", x.book(0), 1);
+            Checks.lay(x, 0, "p01");
+            x.text(0, 1);
+            x.put(0, 0, 'p');
+            Edges.due("it ends where a figure is due", x.fault(0), 1);
+        });
         Edges.test(8, "TEXTS 0 .. 3 rows of 0 to 80 bytes,", () -> {
             LastPage x = new LastPage();
             for (int t = 0; t < 4; t++) Edges.due("text(" + t + ", 80)", x.text(t, 80), 80);
